@@ -307,16 +307,22 @@ public final class AskedRoutes {
     // ---- images
 
     public int keep(int image) {
-        return images.store(image, known) ? known.links.total : BAD;
+        if (!isImage(image)) {
+            return BAD;
+        }
+        images.rows[image].copyFrom(known);
+        images.kept[image] = true;
+        return known.links.total;
     }
 
     public int back(int image) {
-        if (image < 0 || image >= IMAGES) {
+        if (!isImage(image)) {
             return BAD;
         }
-        if (!images.load(image, known)) {
+        if (!images.kept[image]) {
             return STATE;
         }
+        known.copyFrom(images.rows[image]);
         past.size = 0;
         return known.links.total;
     }
@@ -362,6 +368,10 @@ public final class AskedRoutes {
 
     private static boolean isDelay(int delay) {
         return delay >= 1 && delay <= MOST_DELAY;
+    }
+
+    private static boolean isImage(int image) {
+        return image >= 0 && image < IMAGES;
     }
 
     /** BAD or STATE as guess() and mended() refuse; 0: they don't. */
@@ -711,7 +721,7 @@ public final class AskedRoutes {
         }
     }
 
-    /** The IMAGES; their numbers are looked at here. */
+    /** The IMAGES, and which of them were kept. */
     private static final class Images {
         final Known[] rows = new Known[IMAGES];
         final boolean[] kept = new boolean[IMAGES];
@@ -726,23 +736,6 @@ public final class AskedRoutes {
             for (int i = 0; i < IMAGES; i++) {
                 kept[i] = false;
             }
-        }
-
-        boolean store(int image, Known known) {
-            if (image < 0 || image >= IMAGES) {
-                return false;
-            }
-            rows[image].copyFrom(known);
-            kept[image] = true;
-            return true;
-        }
-
-        boolean load(int image, Known known) {
-            if (image < 0 || image >= IMAGES || !kept[image]) {
-                return false;
-            }
-            known.copyFrom(rows[image]);
-            return true;
         }
     }
 
@@ -759,7 +752,6 @@ public final class AskedRoutes {
 
         /** Whether the PATH of u to d ends at d. */
         boolean follow(int u, int d) {
-            size = 0;
             delays = 0;
             int had = 0;
             int here = u;

@@ -9,6 +9,8 @@ public final class ToldTest {
         clears();
         goodTexts();
         faults();
+        wholeTexts();
+        lettersOfBefore();
         faultChangesNothing();
         readAnew();
         linksAreNumbered();
@@ -140,6 +142,29 @@ public final class ToldTest {
 
     private static void fault(String text, int place) {
         check.due("net() of '" + text + "'", Check.tell(new AskedRoutes(), text), -10 - place);
+    }
+
+    /** Texts of 120 letters: nothing stands behind the last one. */
+    private static void wholeTexts() {
+        check.due("net() of 120 blanks", Check.tell(new AskedRoutes(), " ".repeat(120)), 0);
+        check.due("net() of 120 digits", Check.tell(new AskedRoutes(), "1".repeat(120)), -10);
+        check.due("net() of 40 items", Check.tell(new AskedRoutes(), "x1;".repeat(40)), 40);
+        check.due("net() that ends at 120", Check.tell(new AskedRoutes(), "x1;".repeat(39) + " x1"), -130);
+        check.due("net() that ends at 120 with blanks", Check.tell(new AskedRoutes(), "x1;".repeat(39) + "x  "), -130);
+        check.due("net() with a fault at 119", Check.tell(new AskedRoutes(), "x1;".repeat(39) + "x1%"), -129);
+    }
+
+    /** What was cleared, or read, is no longer there. */
+    private static void lettersOfBefore() {
+        AskedRoutes x = new AskedRoutes();
+        check.due("net() of a long text", Check.tell(x, "n3         ;"), 1);
+        check.due("net() of 'n'", Check.tell(x, "n"), -11);
+        x.clear();
+        check.due("net() of digits", Check.tell(x, "x12222222222"), -11);
+        x.clear();
+        check.due("net() of 'x1'", Check.tell(x, "x1"), -12);
+        check.due("type(;)", x.type(';'), 3);
+        check.due("net()", x.net(), 1);
     }
 
     private static void faultChangesNothing() {
