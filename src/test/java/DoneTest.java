@@ -195,7 +195,12 @@ public final class DoneTest {
             check.due("cuts(" + l + ")", x.cuts(l), Check.BAD);
         }
         int kept = x.guess(0, 2, 2);
+        int when = x.mended(2, 0, 0);
+        check.holds("2 was asked for 0", when > 0);
         check.due("cuts(0)", x.cuts(0), 2);
+        check.due("mended(2, 0, 0) stays", x.mended(2, 0, 0), when);
+        check.due("least(0, 1)", x.least(0, 1), 5);
+        check.due("least(1, 0)", x.least(1, 0), 5);
         check.due("link(0, 1)", x.link(0, 1), 2);
         check.due("guess(0, 2, 1)", x.guess(0, 2, 1), Check.STATE);
         check.due("guess(1, 2, 0)", x.guess(1, 2, 0), Check.STATE);
@@ -210,6 +215,10 @@ public final class DoneTest {
         check.due("cuts(1)", x.cuts(1), 1);
         check.due("cuts(0)", x.cuts(0), 0);
         check.due("cuts(0), none left", x.cuts(0), Check.BAD);
+        check.due("least(1, 0), none left", x.least(1, 0), Check.NONE);
+        x = check.told("n6;e4 5 1;");
+        x.rounds(1);
+        check.due("cuts(0) of the highest", x.cuts(0), 0);
     }
 
     private static void lays() {

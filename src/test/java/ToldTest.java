@@ -132,6 +132,8 @@ public final class ToldTest {
         fault("x1;" + (char) 0, 3);
         fault("x1;" + (char) 160, 3);
         fault("x" + (char) 178 + ";", 1);
+        fault("x" + (char) 0 + ";", 1);
+        fault("x1" + (char) 0, 2);
         fault("  x", 3);
         fault("y1;", 0);
         fault("a0;%", 1);
