@@ -72,7 +72,7 @@ public final class GuessTest {
     private static void guessHasAMost() {
         AskedRoutes x = check.told("n3;e0 1 9;l99;a99;f99;");
         int most = 0;
-        for (int i = 0; i < 200; i++) {
+        for (int i = 0; i < 100; i++) {
             x.sends(0, 2);
             most = Math.max(most, Math.max(x.guess(0, 2, 1), x.guess(1, 2, 0)));
         }

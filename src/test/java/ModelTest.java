@@ -27,7 +27,7 @@ public final class ModelTest {
 
     private void play() {
         tell(goodText());
-        while (calls < 512) {
+        while (calls < Script.MOST_CALLS) {
             int dice = random.nextInt(100);
             if (dice == 0) {
                 tell(goodText());
@@ -44,7 +44,9 @@ public final class ModelTest {
 
     private void same(String call, int got, int want) {
         calls++;
-        check.due("run " + run + ", call " + calls + ", " + call, got, want);
+        if (calls <= Script.MOST_CALLS) {
+            check.due("run " + run + ", call " + calls + ", " + call, got, want);
+        }
     }
 
     private void tell(String text) {

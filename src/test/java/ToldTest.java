@@ -11,8 +11,6 @@ public final class ToldTest {
         faults();
         wholeTexts();
         lettersOfBefore();
-        faultChangesNothing();
-        readAnew();
         linksAreNumbered();
         linkIsBad();
         counts();
@@ -167,33 +165,6 @@ public final class ToldTest {
         check.due("net() of 'x1'", Check.tell(x, "x1"), -12);
         check.due("type(;)", x.type(';'), 3);
         check.due("net()", x.net(), 1);
-    }
-
-    private static void faultChangesNothing() {
-        AskedRoutes x = check.told("n3;e0 1 2;x2;f3;");
-        x.sends(0, 1);
-        x.sees(0, 1, 4);
-        x.keep(1);
-        String before = Check.allOf(x);
-        check.due("net() with a fault", Check.tell(x, "n6;e0 5 1;x9;h3;a5;l6;f7;;"), -10 - 25);
-        check.due("letters that stay", x.clear(), 26);
-        check.holds("a fault changes nothing", before.equals(Check.allOf(x)));
-        check.due("the image is still there", x.back(1), 1);
-    }
-
-    private static void readAnew() {
-        AskedRoutes x = check.told("n4;e0 1 2;e1 2 3;x2;h1;a5;l7;f3;");
-        x.rounds(2);
-        x.sees(0, 1, 4);
-        x.keep(0);
-        x.keep(1);
-        check.due("net() anew", Check.tell(x, "n3;e0 1 2;"), 2);
-        check.holds("all is as in a new object", Check.allOf(check.told("n3;e0 1 2;")).equals(Check.allOf(x)));
-        check.due("image 0 is gone", x.back(0), Check.STATE);
-        check.due("image 1 is gone", x.back(1), Check.STATE);
-        check.due("undo()", x.undo(), Check.STATE);
-        check.due("net() of nothing", x.net(), 0);
-        check.holds("all is as at first", Check.allOf(new AskedRoutes()).equals(Check.allOf(x)));
     }
 
     private static void linksAreNumbered() {

@@ -11,7 +11,6 @@ public final class WaysTest {
         hurts();
         worsts();
         sixNodes();
-        nothingIsChanged();
         check.end();
     }
 
@@ -154,18 +153,5 @@ public final class WaysTest {
         check.due("unseen()", x.unseen(), 3);
         x.sees(0, 4, 6);
         check.due("unseen() of one", x.unseen(), 2);
-    }
-
-    private static void nothingIsChanged() {
-        AskedRoutes x = check.told("n4;e0 1 1;e1 2 2;e0 2 9;e2 3 4;x2;");
-        x.rounds(1);
-        String before = Check.allOf(x);
-        x.hurt(0);
-        x.worst();
-        x.unseen();
-        x.right();
-        x.astray(3);
-        x.path(0, 3, 1);
-        check.holds("asking changes nothing", before.equals(Check.allOf(x)));
     }
 }
