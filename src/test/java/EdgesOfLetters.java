@@ -100,6 +100,8 @@ final class EdgesOfLetters {
 
     private void hops() {
         add("TIME is 1 more by each HOP", "<n3;e0 1 1;e1 2 1;>=3 sends(2,0)=2 count(7)=2 sends(0,1)=1 count(7)=3");
+        add("An object is used for at most 512 calls: the last of them", "<e0 1 1;>=1 " + "sends(0,1)=1 ".repeat(503) + "used(0)=503");
+        add("An object is used for at most 512 calls: dear ones", "<n6;e0 1 1;l99;>=3 " + "rounds(4)=8 ".repeat(490) + "count(7)=1571920 count(10)=8 undo()=7 count(7)=1568712");
         add("WORTH is 0 at first for each LETTER", "<e0 1 4;>=1 sends(0,1)=4 sends(0,1)=4");
         // The GUESS of 0 by 2 is trusted for the last time at TIME 2; at 3, BEST would be 1.
         String last = "<n3;e0 2 1;e1 2 1;a1;f9;>=5 sends(0,2)=1 lays(0,1,9)=3 sends(2,0)=1 ";
