@@ -158,6 +158,8 @@ final class EdgesOfText {
         add("FAULT: any other letter, where ; is due", "<x1%;>=-12");
         add("FAULT: any other letter, where an ITEM is due", "<x1;%>=-13");
         add("FAULT: any other letter: 0", "<x1;" + (char) 0 + ">=-13");
+        add("FAULT: any other letter: 0, where a NUMBER is due", "<x" + (char) 0 + ";>=-11");
+        add("FAULT: any other letter: 0, where ; is due", "<x1" + (char) 0 + ">=-12");
         add("FAULT: any other letter: 255", "<x1;" + (char) 255 + ">=-13");
         add("FAULT: any other letter: 178, a raised 2", "<x" + (char) 178 + ";>=-11");
     }
